@@ -166,8 +166,9 @@ public final class StandTugs {
         }
         save();
         int goneBefore = now.countAt(GONE);
-        for (int i = 0; i < minutes; i++) {
-            now.passMinute();
+        int passed = 0;
+        for (int i = 0; i < minutes && passed < minutes; i++) {
+            passed += now.passSome(minutes - passed);
         }
         return now.countAt(GONE) - goneBefore;
     }
@@ -234,8 +235,9 @@ public final class StandTugs {
         }
         trial.copyFrom(now);
         Aircraft one = trial.aircraft[aircraft];
-        for (int i = 0; i < LONGEST_QUESTION && one.delay == NONE; i++) {
-            trial.passMinute();
+        int passed = 0;
+        for (int i = 0; i < LONGEST_QUESTION && passed < LONGEST_QUESTION && one.delay == NONE; i++) {
+            passed += trial.passSome(LONGEST_QUESTION - passed);
         }
         return one.delay;
     }
@@ -641,13 +643,53 @@ public final class StandTugs {
             }
         }
 
-        void passMinute() {
+        /**
+         * Lets a minute pass, and if nothing happens in it, those after it too in which nothing can happen, as most of
+         * the 3000 minutes of a question are like the minute before. Answers how many they were, at most so many.
+         */
+        int passSome(int most) {
+            int eventsBefore = log.total;
             workTugs();
             receive();
             pushBack();
             tow();
-            countMinute();
-            minute++;
+            int quiet = 0;
+            if (log.total == eventsBefore) {
+                quiet = Math.max(0, Math.min(quietMinutes(), most - 1));
+            }
+            for (int i = 0; i < tugCount; i++) {
+                if (tugs[i].aircraft != NONE) {
+                    tugs[i].minutesLeft -= quiet;
+                }
+            }
+            countMinutes(1 + quiet);
+            minute += 1 + quiet;
+            return 1 + quiet;
+        }
+
+        /**
+         * How many minutes after this one, in which nothing happened, must be like it: until a tug gets free, an
+         * aircraft comes or wants to leave, or the curfew ends. (A tow can only begin when one of these has happened.)
+         */
+        private int quietMinutes() {
+            int next = minute + LONGEST_QUESTION;
+            for (int i = 0; i < tugCount; i++) {
+                if (tugs[i].aircraft != NONE) {
+                    next = Math.min(next, minute + tugs[i].minutesLeft);
+                }
+            }
+            for (int i = 0; i < aircraftCount; i++) {
+                Aircraft one = aircraft[i];
+                if (one.place == EXPECTED) {
+                    next = Math.min(next, one.comes);
+                } else if (one.isOnStandOrBay() && one.leaves > minute) {
+                    next = Math.min(next, one.leaves);
+                }
+            }
+            if (isCurfew()) {
+                next = Math.min(next, minute - minute % DAY + curfewEnd);
+            }
+            return next - minute - 1;
         }
 
         private void workTugs() {
@@ -762,12 +804,12 @@ public final class StandTugs {
             }
         }
 
-        private void countMinute() {
+        private void countMinutes(int minutes) {
             for (int i = 0; i < standCount; i++) {
                 Stand stand = stands[i];
                 if (stand.aircraft != NONE) {
-                    stand.minutes++;
-                    aircraft[stand.aircraft].minutes++;
+                    stand.minutes += minutes;
+                    aircraft[stand.aircraft].minutes += minutes;
                 }
             }
         }
@@ -830,13 +872,15 @@ public final class StandTugs {
 
         /** Answers the minutes that it took; NONE if that would be too many for a question. */
         int passUntilAllGone() {
-            for (int i = 0; i < LONGEST_QUESTION; i++) {
-                if (countAt(GONE) == aircraftCount) {
-                    return i;
-                }
-                passMinute();
+            int passed = 0;
+            for (int i = 0; i < LONGEST_QUESTION && passed < LONGEST_QUESTION && !areAllGone(); i++) {
+                passed += passSome(LONGEST_QUESTION - passed);
             }
-            return countAt(GONE) == aircraftCount ? LONGEST_QUESTION : NONE;
+            return areAllGone() ? passed : NONE;
+        }
+
+        private boolean areAllGone() {
+            return countAt(GONE) == aircraftCount;
         }
 
         int countAt(int place) {

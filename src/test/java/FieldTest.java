@@ -68,6 +68,16 @@ public final class FieldTest {
         check.due("2: stands again", x.value(0), 6);
         check.due("2: undo()", x.undo(), 2);
         check.due("2: minute again", x.value(3), 30);
+        x.begin(1, 1);
+        x.expect(11, 0, 1, 0);
+        check.due("2: no minutes of an aircraft before", x.aircraft(0, 8), 0);
+        check.due("2: no delay of an aircraft before", x.aircraft(0, 7), StandTugs.NONE);
+        x.begin(1, 1);
+        x.expect(41, 0, 40, 60);
+        x.pass(30);
+        x.begin(1, 1);
+        x.expect(11, 0, 1, 0);
+        check.due("2: no buses of an aircraft before", x.aircraft(0, 9), 0);
         int[][] wrong = {{0, 1}, {7, 1}, {1, 0}, {1, 4}, {-1, -1}, {Integer.MAX_VALUE, 1}, {1, Integer.MIN_VALUE}};
         for (int[] one : wrong) {
             check.illegal(x, "2: begin(" + one[0] + ", " + one[1] + ")", () -> x.begin(one[0], one[1]));

@@ -200,6 +200,11 @@ public final class QuestionsTest {
         check.due("19: 23 of 60", x.used(), 23.0 / 60.0);
         x.begin(6, 1);
         check.due("19: begun anew", x.used(), 0.0);
+        for (int i = 0; i < 6; i++) {
+            x.expect(21, 0, 100, 0);
+        }
+        x.pass(2);
+        check.due("19: all of six", x.used(), 1.0);
         x.begin(1, 1);
         x.expect(21, 0, 1999, 0);
         x.pass(7);

@@ -22,7 +22,7 @@ public final class RandomRunsTest {
 
     public static void main(String[] args) {
         Check check = new Check();
-        for (int run = 0; run < 400; run++) {
+        for (int run = 0; run < 200; run++) {
             RandomRunsTest test = new RandomRunsTest(check, run);
             int calls = run % 4 == 0 ? 512 : 120;
             for (int i = 0; i < calls; i++) {

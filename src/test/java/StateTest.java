@@ -4,6 +4,7 @@ public final class StateTest {
 
     public static void main(String[] args) {
         undoOfAll();
+        undoOfMany();
         fourAreKept();
         textIsNotSaved();
         notUndoable();
@@ -55,6 +56,32 @@ public final class StateTest {
         undone("pass", x -> x.pass(1));
         undone("pass far", x -> x.pass(500));
         undone("parse", x -> x.parse());
+    }
+
+    private static void undoOfMany() {
+        StandTugs x = busy();
+        long before = x.digest();
+        x.begin(6, 3);
+        for (char sign : "430,9p400;229,1999;115,6p0;".toCharArray()) {
+            x.append(sign);
+        }
+        x.parse();
+        x.clearText();
+        x.pass(500);
+        x.setSpan(0, 1);
+        check.due("23: undo() of setSpan", x.undo(), 3);
+        check.due("23: undo() of pass", x.undo(), 2);
+        check.due("23: undo() of parse", x.undo(), 1);
+        check.due("23: undo() of begin", x.undo(), 0);
+        StandTugs same = busy();
+        for (int i = 0; i < 4; i++) {
+            same.setSpan(1, 3);
+        }
+        for (int i = 0; i < 4; i++) {
+            same.undo();
+        }
+        check.due("23: the state before all", x.digest(), same.digest());
+        check.holds("23: but for the saved ones", x.digest() != before);
     }
 
     private static void fourAreKept() {
