@@ -47,7 +47,7 @@ public final class QuestionsTest {
 
     /**
      * Aircraft on bays that want to leave at 1999, and one tug; only the first minute of each day is no curfew, so that
-     * the first one goes at 2880, the next one at 4320 and so on, and gone is it 5 minutes later.
+     * the pushback of the first one begins at 2880, that of the next one at 4320, and each is gone 5 minutes later.
      */
     private static StandTugs slow(int aircraft, int minute) {
         StandTugs x = new StandTugs();
